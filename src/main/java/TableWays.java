@@ -11,7 +11,6 @@ public final class TableWays {
     private static final int BYTES_OF_A_FEED = 20;
     private static final int MOST_TRIED = 1000;
     private static final int STOPPED = -10;
-    private static final long ANY_TOLD = -1L;
     private static final long NO_CELL = -2L;
     private static final int LISTED_TEXTS = 6;
     /** The texts of LISTED tables: empty, a, b, a-b, 1, 2. */
@@ -124,8 +123,7 @@ public final class TableWays {
         if (!onShelf(t) || !tables[t].has(r, c)) {
             return NO_CELL;
         }
-        long text = tables[t].at(r, c);
-        return text == Text.ANY ? ANY_TOLD : text;
+        return tables[t].at(r, c);
     }
 
     public int copy(int t, int to) {
@@ -325,8 +323,8 @@ public final class TableWays {
     }
 
     /**
-     * Cells are longs: their bytes to the base 256, the first one highest. No byte of a cell is 0, so
-     * the number tells the length too, and 0 is the empty text.
+     * Cells are longs, as cell() tells them: their bytes to the base 256, the first one highest. No byte
+     * of a cell is 0, so the number tells the length too, and 0 is the empty text.
      */
     private static final class Text {
         static final long EMPTY = 0L;
@@ -495,8 +493,12 @@ public final class TableWays {
 
         /** Whether two rows are the same in the columns from .. to - 1. */
         boolean rowsAgree(int r, int q, int from, int to) {
+            // looked at here and not in has(), as calls go no deeper than eight
+            if (r < 0 || r >= rows || q < 0 || q >= rows || from < 0 || to > columns) {
+                return false;
+            }
             for (int c = from; c < to; c++) {
-                if (at(r, c) != at(q, c)) {
+                if (cells[r * columns + c] != cells[q * columns + c]) {
                     return false;
                 }
             }

@@ -428,4 +428,137 @@ final class Model {
         }
         return -1;
     }
+
+    /** KIND and PLACE of a table's text, {0, -1} without a FAULT: every byte is judged by what is ahead of it. */
+    static int[] tableFault(String text) {
+        for (int i = 0; i <= text.length(); i++) {
+            String[] rows = text.substring(0, i).split(";", -1);
+            String[] cells = rows[rows.length - 1].split(",", -1);
+            String cell = cells[cells.length - 1];
+            int first = rows.length > 1 ? rows[0].split(",", -1).length : 99;
+            String x = i < text.length() ? text.substring(i, i + 1) : "";
+            boolean ends = x.isEmpty() || x.equals(";");
+            int kind = 0;
+            if (ends && rows.length > 1 && cells.length < first || x.equals(",") && cells.length + 1 > first) {
+                kind = 3;
+            } else if (x.equals(",") && cells.length == 6 || x.equals(";") && rows.length == 12) {
+                kind = 4;
+            } else if (!ends && !x.equals(",")) {
+                boolean good = x.matches("[a-z0-9:/.?-]") && !cell.equals("?") && (!x.equals("?") || cell.isEmpty());
+                kind = !good ? 1 : cell.length() == 7 ? 2 : 0;
+            }
+            if (kind != 0) {
+                return new int[] {kind, i};
+            }
+        }
+        return new int[] {0, -1};
+    }
+
+    /** A FAULT that a reading of a way comes to. */
+    private static final class Fault extends RuntimeException {
+        private static final long serialVersionUID = 1L;
+        final int kind;
+        final int place;
+
+        Fault(int kind, int place) {
+            this.kind = kind;
+            this.place = place;
+        }
+    }
+
+    /** A reading of a way by its grammar, rule by rule. */
+    static final class Reading {
+        private final List<String> tokens = new ArrayList<>();
+        private final List<Integer> places = new ArrayList<>();
+        private int at = 0;
+        int kind = 0;
+        int place = -1;
+        List<int[]> way = new ArrayList<>();
+
+        Reading(String text) {
+            java.util.regex.Matcher m = java.util.regex.Pattern.compile("[a-z]+|[^ \\n]", java.util.regex.Pattern.DOTALL).matcher(text);
+            while (m.find()) {
+                tokens.add(m.group());
+                places.add(m.start());
+            }
+            tokens.add("");
+            places.add(text.length());
+            try {
+                way = readWay(0, 0);
+                need(tokens.get(at).isEmpty(), 1);
+            } catch (Fault f) {
+                kind = f.kind;
+                place = f.place;
+            }
+        }
+
+        private void need(boolean good, int faultKind) {
+            if (!good) {
+                throw new Fault(faultKind, places.get(at));
+            }
+        }
+
+        private String pass(String form) {
+            String token = tokens.get(at);
+            need(token.matches(form), 1);
+            return token;
+        }
+
+        private int digit(int least, int most) {
+            int n = Integer.parseInt(pass("[0-9]"));
+            need(n >= least && n <= most, 2);
+            at++;
+            return n;
+        }
+
+        private List<int[]> readWay(int ahead, int depth) {
+            List<int[]> steps = new ArrayList<>();
+            while (tokens.get(at).matches("[a-z]+")) {
+                steps.addAll(readStep(ahead + steps.size(), depth));
+            }
+            return steps;
+        }
+
+        private List<int[]> readStep(int ahead, int depth) {
+            String word = tokens.get(at);
+            if (word.equals("repeat")) {
+                return readRepeat(ahead, depth);
+            }
+            int number = List.of(WORDS).indexOf(word);
+            need(number > 0, 1);
+            need(ahead < 12, 3);
+            at++;
+            int[] step = {number, 0, 0};
+            if (!word.matches("turn|unfold|single|head")) {
+                step[1] = digit(0, 5);
+            }
+            if (word.matches("split|join")) {
+                step[2] = MARKS.indexOf(pass("[-:/.]"));
+                at++;
+            }
+            if (word.equals("sum")) {
+                step[2] = digit(0, 5);
+            }
+            pass(";");
+            at++;
+            return List.of(step);
+        }
+
+        private List<int[]> readRepeat(int ahead, int depth) {
+            at++;
+            int often = digit(1, 6);
+            pass("\\{");
+            need(depth < 3, 3);
+            at++;
+            List<int[]> body = readWay(ahead, depth + 1);
+            pass("\\}");
+            need(ahead + body.size() * often <= 12, 3);
+            at++;
+            List<int[]> all = new ArrayList<>();
+            for (int i = 0; i < often; i++) {
+                all.addAll(body);
+            }
+            return all;
+        }
+    }
 }

@@ -151,8 +151,8 @@ public final class ModelTest {
                 x = new TableWays();
             }
             boolean two = next(3) == 0;
-            int rows = 1 + next(i % 7 == 0 ? 8 : 3);
-            int columns = 1 + next(i % 7 == 0 ? 5 : 3);
+            int rows = 1 + next(i % 3 == 0 ? 8 : 3);
+            int columns = 1 + next(i % 3 == 0 ? 5 : 3);
             String t = randomTable(rows, columns, i % 25 == 0 ? 5 : 0);
             String u = two ? randomTable(rows, columns, 0) : null;
             List<int[]> way = walkableWay(t, next(5) == 0 ? 0 : next(5) == 0 ? 1 : 3);
@@ -221,7 +221,75 @@ public final class ModelTest {
         return kinds;
     }
 
+    private static int[] tableTexts() {
+        int[] kinds = new int[5];
+        String[] odd = {",", ";", "?", "a", "A", "abcdef", "-", " ", "12", ",,", ";;", "\u00e9", ""};
+        for (int i = 0; i < 20000; i++) {
+            StringBuilder s = new StringBuilder(randomTable(13, 7, 9));
+            for (int k = next(4); k > 0; k--) {
+                int at = next(s.length() + 1);
+                int to = Math.min(s.length(), at + next(3));
+                s.replace(at, to, odd[next(odd.length)]);
+            }
+            String text = s.toString();
+            TableWays x = new TableWays();
+            int[] fault = Model.tableFault(text);
+            String what = "table of " + text;
+            Check.due(what, Check.table(x, 0, text), fault[0] != 0 ? -1 : text.split(";", -1).length);
+            Check.due("kind of " + what, x.fault(0), fault[0]);
+            Check.due("place of " + what, x.fault(1), fault[1]);
+            Check.due("cells of " + what, Check.read(x, 0), fault[0] != 0 ? "" : text);
+            kinds[fault[0]]++;
+        }
+        return kinds;
+    }
+
+    private static String randomWayText(int depth) {
+        StringBuilder s = new StringBuilder();
+        for (int k = next(5); k > 0; k--) {
+            if (next(4) == 0 && depth < 5) {
+                s.append("repeat ").append(1 + next(3)).append(next(2) == 0 ? "{" : " {\n");
+                s.append(randomWayText(depth + 1)).append('}');
+            } else {
+                s.append(textOf(randomStep()));
+            }
+            s.append(next(3) == 0 ? " " : "");
+        }
+        return s.toString();
+    }
+
+    private static int[] wayTexts() {
+        int[] kinds = new int[4];
+        String[] odd = {"turn", "turn;", "repeat", "repeat 6{", "{", "}", ";", "1", "6", "7", "0", "-", ".", " ", "\n", "x", "A", "?", "\u0000", ""};
+        for (int i = 0; i < 40000; i++) {
+            StringBuilder s = new StringBuilder(randomWayText(0));
+            for (int k = next(3); k > 0; k--) {
+                int at = next(s.length() + 1);
+                int to = Math.min(s.length(), at + next(4));
+                s.replace(at, to, odd[next(odd.length)]);
+            }
+            String text = s.length() > 1000 ? s.substring(0, 1000) : s.toString();
+            TableWays x = new TableWays();
+            Model.Reading reading = new Model.Reading(text);
+            StringBuilder way = new StringBuilder();
+            for (int[] step : reading.way) {
+                way.append(way.length() == 0 ? "" : " ").append(step[0]).append('.').append(step[1]).append('.').append(step[2]);
+            }
+            String what = "way of " + text;
+            Check.due(what, Check.way(x, 0, text), reading.kind != 0 ? -1 : reading.way.size());
+            Check.due("kind of " + what, x.fault(0), reading.kind);
+            Check.due("place of " + what, x.fault(1), reading.place);
+            Check.due("steps of " + what, Check.readWay(x, 0), reading.kind != 0 ? "" : way.toString());
+            kinds[reading.kind]++;
+        }
+        return kinds;
+    }
+
     public static void main(String[] args) {
+        int[] t = tableTexts();
+        System.out.println("table texts: good " + t[0] + ", KINDS 1 to 4: " + t[1] + ", " + t[2] + ", " + t[3] + ", " + t[4]);
+        int[] w = wayTexts();
+        System.out.println("way texts: good " + w[0] + ", KINDS 1 to 3: " + w[1] + ", " + w[2] + ", " + w[3]);
         steps();
         walks();
         int[] f = finds();
