@@ -61,11 +61,11 @@ public final class TableWays {
     }
 
     public int table(int t) {
+        int bytes = emptyTape();
         if (!onShelf(t)) {
             return RANGE;
         }
-        tableReader.read(tape, taped);
-        taped = 0;
+        tableReader.read(tape, bytes);
         faultKind = tableReader.kind;
         faultPlace = tableReader.place;
         if (faultKind != 0) {
@@ -76,11 +76,11 @@ public final class TableWays {
     }
 
     public int way(int w) {
+        int bytes = emptyTape();
         if (!onShelf(w)) {
             return RANGE;
         }
-        wayReader.read(tape, taped);
-        taped = 0;
+        wayReader.read(tape, bytes);
         faultKind = wayReader.kind;
         faultPlace = wayReader.place;
         if (faultKind != 0) {
@@ -283,6 +283,13 @@ public final class TableWays {
             tape[taped] = (byte) (four >> shift);
             taped++;
         }
+    }
+
+    /** How many bytes there are to read; they are gone ahead of RANGE too, as such a call reads as well. */
+    private int emptyTape() {
+        int bytes = taped;
+        taped = 0;
+        return bytes;
     }
 
     private int stepsOfAllWays() {

@@ -59,9 +59,6 @@ public final class TextsTest {
         }
         Check.due("feed at 1000", x.feed(0, 0, 0, 0, 0), TableWays.FULL);
         Check.due("tape at 1000", x.count(0), 1000);
-        Check.due("no table reads it", x.table(8), TableWays.RANGE);
-        Check.due("no way reads it", x.way(-1), TableWays.RANGE);
-        Check.due("RANGE leaves the tape", x.count(0), 1000);
         Check.due("end(981)", x.end(981), 981);
         Check.due("feed at 981", x.feed(0, 0, 0, 0, 0), TableWays.FULL);
         Check.due("end(980)", x.end(980), 980);
@@ -69,6 +66,32 @@ public final class TextsTest {
         Check.due("way of 1000 bytes", x.way(0), TableWays.NONE);
         Check.due("its fault", x.fault(1), 999);
         Check.due("tape", x.count(0), 0);
+    }
+
+    /** A call that answers RANGE reads THE TAPE too: it is empty then, and nothing else has changed. */
+    private static void tapeAfterRange() {
+        int[] wrong = {-1, 8, 9, Integer.MIN_VALUE, Integer.MAX_VALUE};
+        for (int i : wrong) {
+            TableWays x = new TableWays();
+            Check.tell(x, "a,b;c,d");
+            Check.due("table(" + i + ")", x.table(i), TableWays.RANGE);
+            Check.due("table(" + i + ") empties the tape", x.count(0), 0);
+            Check.due("end(1) behind table(" + i + ")", x.end(1), TableWays.NONE);
+            Check.due("table(0) of nothing", x.table(0), 1);
+            Check.due("table(0) of nothing", Check.read(x, 0), "");
+            Check.tell(x, "turn;");
+            Check.due("way(" + i + ")", x.way(i), TableWays.RANGE);
+            Check.due("way(" + i + ") empties the tape", x.count(0), 0);
+            Check.due("way(0) of nothing", x.way(0), 0);
+            Check.due("no way has a step", x.count(1), 0);
+            Check.due("feed behind RANGE", x.feed(0, 0, 0, 0, 0), 20);
+            Check.due("table(" + i + ") of a wrong text", x.table(i), TableWays.RANGE);
+            Check.due("no fault of it", x.fault(0), 0);
+            Check.due("feed behind RANGE", x.feed(0, 0, 0, 0, 0), 20);
+            Check.due("way(" + i + ") of a wrong text", x.way(i), TableWays.RANGE);
+            Check.due("no fault of it", x.fault(1), TableWays.NONE);
+            Check.due("feed behind RANGE", x.feed(0, 0, 0, 0, 0), 20);
+        }
     }
 
     private static void fault() {
@@ -80,8 +103,10 @@ public final class TextsTest {
         Check.way(x, 0, " turn");
         Check.due("fault", x.fault(0), 1);
         Check.due("fault", x.fault(1), 5);
-        x.table(9);
-        x.way(9);
+        Check.table(x, 9, "a");
+        Check.due("RANGE aside", x.fault(0), 1);
+        Check.due("RANGE aside", x.fault(1), 5);
+        Check.way(x, 9, "drop 9;");
         Check.due("RANGE aside", x.fault(0), 1);
         Check.due("RANGE aside", x.fault(1), 5);
         Check.due("another fault", x.fault(2), TableWays.NONE);
@@ -190,6 +215,7 @@ public final class TextsTest {
 
     public static void main(String[] args) {
         tape();
+        tapeAfterRange();
         fault();
         tables();
         ways();
