@@ -64,6 +64,15 @@ final class Check {
         return x.table(t);
     }
 
+    /** An object whose first tables have these texts. */
+    static TableWays with(String... tables) {
+        TableWays x = new TableWays();
+        for (int t = 0; t < tables.length; t++) {
+            table(x, t, tables[t]);
+        }
+        return x;
+    }
+
     static int way(TableWays x, int w, String text) {
         tell(x, text);
         return x.way(w);

@@ -2,19 +2,11 @@
 public final class Promise16FindTest {
     private static final int NO = TableWays.NONE;
 
-    private static TableWays with(String... tables) {
-        TableWays x = new TableWays();
-        for (int t = 0; t < tables.length; t++) {
-            Check.table(x, t, tables[t]);
-        }
-        return x;
-    }
-
     private static void howMany() {
         Check.says("Promise 16", "of at most so many STEPS (0 .. 3)");
         String[] wishes = {"a,p;b,q;c,r;d,s;e,t", "b,q;c,r;d,s;e,t", "c,r;d,s;e,t", "d,s;e,t", "e,t"};
         for (int steps = 0; steps < wishes.length; steps++) {
-            TableWays x = with(wishes[0], wishes[steps]);
+            TableWays x = Check.with(wishes[0], wishes[steps]);
             for (int most = 0; most <= 3; most++) {
                 int due = steps <= most ? steps : NO;
                 Check.due("to " + wishes[steps] + " in " + most, x.find(0, 1, NO, NO, most), due);
@@ -37,14 +29,14 @@ public final class Promise16FindTest {
             Check.due("find from " + t + " to " + wish, x.find(t, wish, NO, NO, 3), 1);
             Check.due("the tables stay", Check.read(x, t) + " " + Check.read(x, wish), "a,b b,?");
         }
-        TableWays x = with("a,?", "?,b");
+        TableWays x = Check.with("a,?", "?,b");
         Check.due("ANY in both", x.find(0, 1, NO, NO, 3), 0);
         Check.due("one table for both", x.find(0, 0, NO, NO, 3), 0);
     }
 
     private static void twoExamples() {
         Check.says("Promise 16", "and, if u isn't NONE, from u to v");
-        TableWays x = with("a,a", "a", "b,c", "c", "b");
+        TableWays x = Check.with("a,a", "a", "b,c", "c", "b");
         Check.due("one example", x.find(0, 1, NO, NO, 1), 1);
         Check.due("its ways", x.found(0), 2);
         Check.due("to the second column", x.find(0, 1, 2, 3, 1), 1);
@@ -63,7 +55,7 @@ public final class Promise16FindTest {
 
     private static void none() {
         Check.says("Promise 16", "NONE: there are none");
-        TableWays x = with("a,b", "zz", "?,?");
+        TableWays x = Check.with("a,b", "zz", "?,?");
         Check.due("none in 0", x.find(0, 1, NO, NO, 0), NO);
         Check.due("none in 3", x.find(0, 1, NO, NO, 3), NO);
         Check.due("none from ANY", x.find(2, 1, NO, NO, 3), NO);
@@ -73,7 +65,7 @@ public final class Promise16FindTest {
 
     private static void full() {
         Check.says("Promise 16", "FULL: the STATES didn't last");
-        TableWays x = with("a,b,c,d,e,f;1,2,3,4,5,6;a,x,,1,2,3", "zzz", "?,?,?,?;?,?,?,?;?,?,?,?", "?,?,?;?,?,?;?,?,?");
+        TableWays x = Check.with("a,b,c,d,e,f;1,2,3,4,5,6;a,x,,1,2,3", "zzz", "?,?,?,?;?,?,?,?;?,?,?,?", "?,?,?;?,?,?;?,?,?");
         Check.due("none in 3", x.find(0, 1, NO, NO, 3), TableWays.FULL);
         Check.due("none in 1", x.find(0, 1, NO, NO, 1), NO);
         Check.due("one in 2, ahead of all STATES of 3", x.find(0, 2, NO, NO, 3), 2);

@@ -5,21 +5,13 @@ import java.util.List;
 public final class Term3SearchTest {
     private static final int NO = TableWays.NONE;
 
-    private static TableWays with(String... tables) {
-        TableWays x = new TableWays();
-        for (int t = 0; t < tables.length; t++) {
-            Check.table(x, t, tables[t]);
-        }
-        return x;
-    }
-
     private static void one(String t, String wish, int most, int[] due) {
-        TableWays x = with(t, wish);
+        TableWays x = Check.with(t, wish);
         is(x, t + " to " + wish + " in " + most, x.find(0, 1, NO, NO, most), due);
     }
 
     private static void two(String[] four, int most, int[] due) {
-        TableWays x = with(four);
+        TableWays x = Check.with(four);
         String what = four[0] + " to " + four[1] + " and " + four[2] + " to " + four[3] + " in " + most;
         is(x, what, x.find(0, 1, 2, 3, most), due);
         is(x, what + ", the second first", x.find(2, 3, 0, 1, most), due);
@@ -142,7 +134,7 @@ public final class Term3SearchTest {
 
     private static void afterFull() {
         Check.says("Term III", "it ends (FULL)");
-        TableWays x = with("b,,2,b", "zz", "a,b", "b,a");
+        TableWays x = Check.with("b,,2,b", "zz", "a,b", "b,a");
         for (int i = 0; i < 5; i++) {
             Check.due("find", x.find(0, 1, NO, NO, 3), TableWays.FULL);
             is(x, "the next", x.find(2, 3, NO, NO, 3), due(1, 1, 11, 1));
@@ -185,7 +177,7 @@ public final class Term3SearchTest {
             {"a,b,c,d,e,f", "a,b,c,d,f,e", "14.4.0"},
         };
         for (String[] c : cases) {
-            TableWays x = with(c[0], c[1]);
+            TableWays x = Check.with(c[0], c[1]);
             String[] ways = c[2].split(" ");
             int length = c[2].isEmpty() ? 0 : 1;
             Check.due(c[0] + " to " + c[1], x.find(0, 1, NO, NO, 1), length);
@@ -208,12 +200,12 @@ public final class Term3SearchTest {
     private static void shortest() {
         Check.says("Term III", "all rows of STEPS of that length that lead to an end");
         // two STATES on the way, and the STEPS in either order
-        TableWays x = with("a,b;c,d;e,f", "d;f");
+        TableWays x = Check.with("a,b;c,d;e,f", "d;f");
         Check.due("find", x.find(0, 1, NO, NO, 3), 2);
         Check.due("ways", told(x).toString(), "[2.0.0 13.0.0, 13.0.0 2.0.0]");
         Check.due("ways", x.found(0), 2);
         // DROP 0 or DROP 1 of columns that are alike, each with what follows
-        x = with("a,a;b,b", "b");
+        x = Check.with("a,a;b,b", "b");
         Check.due("find", x.find(0, 1, NO, NO, 3), 2);
         Check.due("ways", told(x).toString(), "[2.0.0 13.0.0, 2.1.0 13.0.0, 13.0.0 2.0.0, 13.0.0 2.1.0]");
         Check.due("ways", x.found(0), 4);
@@ -228,7 +220,7 @@ public final class Term3SearchTest {
             {"abc,abc,2", "2;abc"}, {",,,;,,,", ";?;"}, {"1,1,1,1;1,1,1,1", "2;1"}};
         for (String[] c : cases) {
             for (int most = 1; most <= 3; most++) {
-                TableWays x = with(c[0], c[1]);
+                TableWays x = Check.with(c[0], c[1]);
                 Model.Finding f = Model.find(c[0], c[1], null, null, most);
                 String what = c[0] + " to " + c[1] + " in " + most;
                 is(x, what, x.find(0, 1, NO, NO, most), due(f.answer, f.ways, f.states, f.ends));
