@@ -54,6 +54,10 @@ public final class Term3SearchTest {
         two(new String[] {"a,a", "zz", "a,a", "zz"}, 1, due(NO, 0, 8, 0));
         // cells that are the same in another form are another STATE: TURN
         one("a;a", "a,a", 1, due(1, 1, 4, 1));
+        // joined texts that a way of mixing bytes may take for the same, in the first example and in the second
+        one(",abc", "zz", 3, due(NO, 0, Model.find(",abc", "zz", null, null, 3).states, 0));
+        two(new String[] {",", "zz", "a-b,abc", "zz"}, 2, due(NO, 0, 36, 0));
+        Check.due("the model's STATES", Model.find(",", "zz", "a-b,abc", "zz", 2).states, 36);
     }
 
     private static void onBoth() {
