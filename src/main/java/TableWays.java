@@ -1134,18 +1134,19 @@ public final class TableWays {
             made.clear();
             due = DUE_STEP;
             depth = 0;
+            // the last byte of the latest TOKEN: the letters behind a WORD's first are read with it
+            int last = NONE;
             for (int i = 0; i < n && i < tape.length; i++) {
                 int x = tape[i] & 255;
-                if (x == ' ' || x == '\n') {
+                if (i <= last || x == ' ' || x == '\n') {
                     continue;
                 }
-                int last = Text.isLetter(x) ? lastLetter(tape, n, i) : i;
+                last = Text.isLetter(x) ? lastLetter(tape, n, i) : i;
                 kind = Text.isLetter(x) ? takeWord(wordIn(tape, i, last)) : takeSign(x);
                 if (kind != 0) {
                     place = i;
                     return;
                 }
-                i = last;
             }
             kind = due != DUE_STEP || depth > 0 ? SYNTAX : 0;
             place = kind == 0 ? NONE : n;

@@ -1,8 +1,13 @@
 import com.sun.source.tree.AssertTree;
+import com.sun.source.tree.AssignmentTree;
 import com.sun.source.tree.BinaryTree;
 import com.sun.source.tree.BlockTree;
 import com.sun.source.tree.ClassTree;
 import com.sun.source.tree.CompilationUnitTree;
+import com.sun.source.tree.CompoundAssignmentTree;
+import com.sun.source.tree.DoWhileLoopTree;
+import com.sun.source.tree.ExpressionStatementTree;
+import com.sun.source.tree.ForLoopTree;
 import com.sun.source.tree.LambdaExpressionTree;
 import com.sun.source.tree.MemberReferenceTree;
 import com.sun.source.tree.MethodInvocationTree;
@@ -12,7 +17,9 @@ import com.sun.source.tree.SynchronizedTree;
 import com.sun.source.tree.ThrowTree;
 import com.sun.source.tree.Tree;
 import com.sun.source.tree.TryTree;
+import com.sun.source.tree.UnaryTree;
 import com.sun.source.tree.VariableTree;
+import com.sun.source.tree.WhileLoopTree;
 import com.sun.source.util.JavacTask;
 import com.sun.source.util.SourcePositions;
 import com.sun.source.util.TreePath;
@@ -48,7 +55,10 @@ public final class LanguageTest {
         final Set<String> methods = new TreeSet<>();
         final Set<String> face = new TreeSet<>();
         final List<String> hidden = new ArrayList<>();
+        /** What the for loops around the lines that are read count by. */
+        private final List<Element> counters = new ArrayList<>();
         int classes = 0;
+        int loops = 0;
         private String method = "";
 
         Reader(Trees trees, CompilationUnitTree unit) {
@@ -160,6 +170,72 @@ public final class LanguageTest {
             return super.visitBinary(tree, none);
         }
 
+        /** A loop counts by what its head sets, and nothing in its body sets that, so its head tells its end. */
+        @Override
+        public Void visitForLoop(ForLoopTree tree, Void none) {
+            loops++;
+            if (tree.getCondition() == null || tree.getUpdate().isEmpty()) {
+                refuse(tree, "a loop whose head tells no end (9)");
+            }
+            scan(tree.getInitializer(), none);
+            scan(tree.getCondition(), none);
+            scan(tree.getUpdate(), none);
+            int around = counters.size();
+            for (ExpressionStatementTree update : tree.getUpdate()) {
+                counters.add(whatIsSet(update.getExpression(), new TreePath(getCurrentPath(), update)));
+            }
+            scan(tree.getStatement(), none);
+            counters.subList(around, counters.size()).clear();
+            return none;
+        }
+
+        private Element whatIsSet(Tree setting, TreePath path) {
+            Tree set = setting instanceof UnaryTree ? ((UnaryTree) setting).getExpression()
+                : setting instanceof CompoundAssignmentTree ? ((CompoundAssignmentTree) setting).getVariable()
+                : ((AssignmentTree) setting).getVariable();
+            return trees.getElement(new TreePath(new TreePath(path, setting), set));
+        }
+
+        private void noteSetting(Tree tree) {
+            if (counters.contains(whatIsSet(tree, getCurrentPath().getParentPath()))) {
+                refuse(tree, "a loop's body sets what the loop counts by (9)");
+            }
+        }
+
+        @Override
+        public Void visitAssignment(AssignmentTree tree, Void none) {
+            noteSetting(tree);
+            return super.visitAssignment(tree, none);
+        }
+
+        @Override
+        public Void visitCompoundAssignment(CompoundAssignmentTree tree, Void none) {
+            noteSetting(tree);
+            return super.visitCompoundAssignment(tree, none);
+        }
+
+        @Override
+        public Void visitUnary(UnaryTree tree, Void none) {
+            Tree.Kind kind = tree.getKind();
+            if (kind == Tree.Kind.POSTFIX_INCREMENT || kind == Tree.Kind.POSTFIX_DECREMENT
+                    || kind == Tree.Kind.PREFIX_INCREMENT || kind == Tree.Kind.PREFIX_DECREMENT) {
+                noteSetting(tree);
+            }
+            return super.visitUnary(tree, none);
+        }
+
+        @Override
+        public Void visitWhileLoop(WhileLoopTree tree, Void none) {
+            refuse(tree, "a loop that doesn't count in its head (9)");
+            return super.visitWhileLoop(tree, none);
+        }
+
+        @Override
+        public Void visitDoWhileLoop(DoWhileLoopTree tree, Void none) {
+            refuse(tree, "a loop that doesn't count in its head (9)");
+            return super.visitDoWhileLoop(tree, none);
+        }
+
         @Override
         public Void visitThrow(ThrowTree tree, Void none) {
             refuse(tree, "throw (6)");
@@ -212,7 +288,7 @@ public final class LanguageTest {
     }
 
     public static void main(String[] args) throws Exception {
-        File source = new File(System.getProperty("main.source", "src/main/java/TableWays.java"));
+        File source = new File(System.getProperty("project", "."), "src/main/java/TableWays.java");
         JavaCompiler compiler = ToolProvider.getSystemJavaCompiler();
         try (StandardJavaFileManager files = compiler.getStandardFileManager(null, null, null)) {
             JavacTask task = (JavacTask) compiler.getTask(null, files, null, List.of("-proc:none"), null,
@@ -230,7 +306,8 @@ public final class LanguageTest {
             for (String method : reader.methods) {
                 deepest = Math.max(deepest, reader.depth(method, new LinkedHashSet<>()));
             }
-            System.out.println(reader.classes + " classes, calls go " + deepest + " deep");
+            System.out.println(reader.classes + " classes, " + reader.loops + " loops, calls go " + deepest + " deep");
+            Check.due("loops are read", reader.loops > 0 ? 1 : 0, 1);
             Check.due("calls go deeper than eight (11)", deepest > 8 ? deepest : 0, 0);
         }
         Check.end();
