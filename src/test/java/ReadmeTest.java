@@ -17,12 +17,14 @@ import javax.tools.ToolProvider;
 
 /**
  * What README.md says of the use of the class holds as it is written there: its Java is compiled as it stands, each
- * call is asked for the answer behind it, and each table that is told with an answer is read back.
+ * call is asked for the answer behind it, and each table that is told with an answer is read back; the calls, STEPS
+ * and tests that it names are those that there are.
  */
 public final class ReadmeTest {
     private static final Pattern ASKED = Pattern.compile("(\\S.*);\\s+// (-?\\d+)(: .*)?");
     private static final Pattern TOLD = Pattern.compile("TABLE (\\d) is \"([^\"]*)\"");
     private static final Pattern CALL = Pattern.compile("(?m)^\\| `(\\w+)\\(([^)]*)\\)` \\|");
+    private static final Pattern STEP = Pattern.compile("(\\d+) ([a-z]+)((?: [NM])*);");
     private static final Pattern TEST = Pattern.compile("`(\\w+Test)`");
     private static final String NEW_OBJECT = "TableWays x = new TableWays();";
 
@@ -134,6 +136,24 @@ public final class ReadmeTest {
         Check.due("the calls that README.md tells", told.toString(), there.toString());
     }
 
+    /** The STEPS are told by their numbers, and a WAY of one of them is read as that STEP with its numbers. */
+    private static void steps(String readme) {
+        Matcher step = STEP.matcher(readme);
+        int number = 0;
+        while (step.find()) {
+            number++;
+            String numbers = step.group(3);
+            Check.due("README.md's number of " + step.group(2), Long.parseLong(step.group(1)), number);
+            String text = step.group(2) + numbers.replace("N", "5").replace("M", ".") + ";";
+            TableWays x = new TableWays();
+            Check.due(text + " as README.md tells it", Check.way(x, 0, text), 1);
+            String a = numbers.isEmpty() ? "0" : "5";
+            String b = numbers.endsWith("M") ? "3" : numbers.endsWith("N N") ? "5" : "0";
+            Check.due(text + " as README.md tells it", Check.readWay(x, 0), number + "." + a + "." + b);
+        }
+        Check.due("STEPS that README.md tells", number, 14);
+    }
+
     /** Those of the promises are told as a row from the first to the last. */
     private static void tests(String readme, File directory) {
         TreeSet<String> there = new TreeSet<>();
@@ -166,6 +186,7 @@ public final class ReadmeTest {
         String program = program(blocks);
         run(program);
         calls(readme, program);
+        steps(readme);
         tests(readme, project.resolve("src/test/java").toFile());
         Check.end();
     }
